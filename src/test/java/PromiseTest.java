@@ -144,6 +144,12 @@ public final class PromiseTest {
         fault("gam", 0, 1);
         fault(" games 1 1 2 2", 1, 1);
         fault("Game 1 1 2 2", 0, 1);
+        fault("gamez 1 1 2 2", 0, 1);
+        fault("gamea1 1 2 2", 0, 1);
+        fault("game{1 1 2 2", 4, 1);
+        fault("game`1 1 2 2", 4, 1);
+        fault("game /1 1 2 2", 5, 1);
+        fault("game :1 1 2 2", 5, 1);
         fault("1 1 2 2", 0, 1);
         fault("game", 4, 1);
         fault("game 1 1 2", 10, 1);
@@ -630,6 +636,11 @@ public final class PromiseTest {
                 + "win 0 0 2 2;win 0 1 3 3;win 1 0 2 2;win 1 1 3 3");
         Due.is("Feige's game once", g.worth(0), 2);
         Due.is("Feige's game twice", g.twice(0), 8);
+        // Whatever the answers are called, it stays so.
+        for (int i = 0; i < 8; i++) {
+            g.exchange(i % 2, i / 2 % 2, i % 3, 3);
+            Due.is("Feige's game twice, called otherwise", g.twice(0), 8);
+        }
     }
 
     // 39

@@ -404,7 +404,7 @@ public final class RandomRunsTest {
 
     private void askTwice(int what) {
         double rows = Math.pow(naive.count(2), 2.0 * naive.count(0) * naive.count(0));
-        if (rows > 70000 || rows < 300 || rows < 7000 && random.nextInt(10) == 0) {
+        if (rows > 70000 || rows < 300 || rows < 7000 && random.nextInt(2) == 0) {
             due("twice(" + what + ")", games.twice(what), naive.twice(what));
         }
         if (naive.count(0) != 4 || random.nextInt(20) == 0) {
