@@ -1584,11 +1584,21 @@ public final class ApartGames {
             begin();
             for (int i = 0; i < rows; i++) {
                 if (high() == wanted) {
-                    found += topRowsFrom(0) / topReplies(y) * topRepliesLosing(game, x, y);
+                    found += topRowsLosing(game, x, y);
                 }
                 step();
             }
             return found;
+        }
+
+        private int topRowsLosing(Game game, int x, int y) {
+            int ways = topRepliesLosing(game, x, y);
+            for (int group = 0; group < groups; group++) {
+                if (group != y) {
+                    ways *= topReplies(group);
+                }
+            }
+            return ways;
         }
 
         private int topRepliesLosing(Game game, int x, int y) {

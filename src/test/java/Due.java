@@ -2,16 +2,34 @@
 final class Due {
     private static int asked = 0;
     private static int wrong = 0;
+    private static String about = "";
 
     private Due() {
     }
 
+    /** What is printed ahead of answers that are wrong from now on. */
+    static void about(String sentence) {
+        about = sentence.isEmpty() ? "" : "[" + sentence + "] ";
+    }
+
+    static int asked() {
+        return asked;
+    }
+
     static void is(String call, long got, long want) {
+        compare(call, got == want, got, want);
+    }
+
+    static void is(String call, String got, String want) {
+        compare(call, got.equals(want), got, want);
+    }
+
+    private static void compare(String call, boolean alike, Object got, Object want) {
         asked++;
-        if (got != want) {
+        if (!alike) {
             wrong++;
             if (wrong <= 50) {
-                System.out.println(call + " answered " + got + ", due is " + want);
+                System.out.println(about + call + " answered " + got + ", due is " + want);
             }
         }
     }
