@@ -101,6 +101,13 @@ public final class ActSentencesTest {
             Due.is("the others stay", g.count(4), 7);
             Due.is("acts", g.count(5), 1);
         }
+        for (String size : new String[] {"2 4", "4 2", "3 2", "2 3", "4 4"}) {
+            ApartGames g = Told.game("game 1 1 " + size);
+            Due.is("parity(0, 0, 0) of " + size, g.parity(0, 0, 0), 1);
+            Due.is("even ones of " + size, g.count(4), (g.count(2) * g.count(3) + 1) / 2);
+            Due.is("parity(0, 0, 1) of " + size, g.parity(0, 0, 1), 1);
+            Due.is("odd ones of " + size, g.count(4), g.count(2) * g.count(3) / 2);
+        }
         Sentences.says(7, "NONE, and nothing happens, without these");
         for (int bad : Sentences.not(2)) {
             Sentences.refused("parity(" + bad + ", 0, 0)", h -> h.parity(bad, 0, 0), NONE);
@@ -141,6 +148,13 @@ public final class ActSentencesTest {
         text(g, "game 2 2 3 4;weight 1 0 4;win 0 1 0 0;win 1 0 0 3;win 1 1 2 1;box 1 0 0 1 5;box 1 0 1 1 2;"
                 + "box 1 0 2 3 12;box 1 1 2 2 7");
         Due.is("acts", g.count(5), 4);
+        // At all questions and answers of the other one, whoever has more of them.
+        g = Told.game("game 5 1 4 2;win 4 0 3 0;box 4 0 3 0 5");
+        Due.is("exchange(1, 0, 0, 1) of one against 5", g.exchange(1, 0, 0, 1), 1);
+        text(g, "game 5 1 4 2;win 4 0 3 1;box 4 0 3 1 5");
+        g = Told.game("game 1 5 2 4;win 0 4 0 3;box 0 4 0 3 5");
+        Due.is("exchange(0, 0, 0, 1) of one against 5", g.exchange(0, 0, 0, 1), 1);
+        text(g, "game 1 5 2 4;win 0 4 1 3;box 0 4 1 3 5");
         g = Told.game("game 1 1 2 2");
         Due.is("exchange(0, 0, 0, 1) of answers alike", g.exchange(0, 0, 0, 1), 1);
         Due.is("it is an act", g.count(5), 1);
@@ -238,6 +252,13 @@ public final class ActSentencesTest {
         Due.is("copy(1, 1)", g.copy(1, 1), 3);
         text(g, "game 2 3 2 3;weight 0 0 2;weight 1 1 4;weight 1 2 4;win 0 1 0 2;win 0 2 0 2;win 1 1 1 0;win 1 2 1 0;"
                 + "box 0 0 0 1 6;box 1 1 1 2 8;box 1 2 1 2 8");
+        g = Told.game("game 5 1 4 2;win 4 0 3 1;box 4 0 3 1 5;weight 4 0 6");
+        Due.is("copy(1, 0) of one against 5", g.copy(1, 0), 2);
+        text(g, "game 5 2 4 2;weight 4 0 6;weight 4 1 6;win 4 0 3 1;win 4 1 3 1;box 4 0 3 1 5;box 4 1 3 1 5");
+        g.swap();
+        Due.is("drop(0, 0)", g.drop(0, 0), 1);
+        Due.is("copy(0, 0) of one against 5", g.copy(0, 0), 2);
+        text(g, "game 2 5 2 4;weight 0 4 6;weight 1 4 6;win 0 4 1 3;win 1 4 1 3;box 0 4 1 3 5;box 1 4 1 3 5");
         // What was dropped there before does not shine through.
         g = Told.game("game 2 1 2 2;weight 1 0 5;win 1 0 0 0;win 1 0 1 1;box 1 0 1 1 4");
         Due.is("drop(0, 1)", g.drop(0, 1), 1);
@@ -337,6 +358,11 @@ public final class ActSentencesTest {
         Due.is("mix(10, 20, 8) there", Sentences.rich().mix(10, 20, 8), 1);
         Due.is("mix(11, 20, 12) beside", Sentences.rich().mix(11, 20, 12), 1);
         Due.is("mix(10, 21, 12) beside", Sentences.rich().mix(10, 21, 12), 1);
+        Sentences.refusedOf(() -> Told.game("game 4 1 2 2;box 3 0 1 1 12"), "mix(1, 1, 1)", h -> h.mix(1, 1, 1), -2);
+        Sentences.refusedOf(() -> Told.game("game 1 4 2 2;box 0 3 1 1 12"), "mix(1, 1, 1)", h -> h.mix(1, 1, 1), -2);
+        ApartGames wide = Told.game("game 4 1 2 2");
+        Due.is("mix(1, 1, 12) of 4 by 1", wide.mix(1, 1, 12), 1);
+        text(wide, "game 4 1 2 2;box 0 0 0 1 12;box 1 0 0 1 12;box 2 0 0 1 12;box 3 0 1 1 12");
         for (int full = 0; full < 4; full++) {
             String text = "game 2 2 2 2;box " + full / 2 + " " + full % 2 + " 1 1 12";
             Sentences.refusedOf(() -> Told.game(text), "mix(11, 11, 1) of " + text, h -> h.mix(11, 11, 1), -2);
@@ -388,6 +414,12 @@ public final class ActSentencesTest {
         g = Told.game("game 5 5 4 4");
         answered = g.draw(MIN);
         Due.is("draw(MIN) of the largest", answered, drawn(g, MIN, 5, 5, 4, 4));
+        g = Told.game("game 4 1 2 3");
+        answered = g.draw(9);
+        Due.is("draw(9) of 4 by 1", answered, drawn(g, 9, 4, 1, 2, 3));
+        g = Told.game("game 1 4 3 2");
+        answered = g.draw(9);
+        Due.is("draw(9) of 1 by 4", answered, drawn(g, 9, 1, 4, 3, 2));
         Sentences.says(14, "NONE, and nothing happens, without a GAME");
         Sentences.refusedBare("draw(0)", h -> h.draw(0));
         Sentences.refusedBare("draw(-1)", h -> h.draw(-1));

@@ -50,6 +50,10 @@ public final class LookSentencesTest {
         g = Told.game("game 5 1 2 2;even 4 0;weight 4 0 9;even 0 0");
         Due.is("without(0, 4), her last one", g.without(0, 4), 1);
         Due.is("without(0, 3)", g.without(0, 3), 10);
+        Due.is("without(1, 0), asked by all of Ann's", g.without(1, 0), 0);
+        g.swap();
+        Due.is("without(1, 4), his last one", g.without(1, 4), 1);
+        Due.is("without(0, 0), asked by all of Ben's", g.without(0, 0), 0);
         Sentences.says(30, "NONE without these");
         for (int bad : Sentences.not(2)) {
             Sentences.refused("without(" + bad + ", 0)", h -> h.without(bad, 0), NONE);
@@ -79,6 +83,15 @@ public final class LookSentencesTest {
         Due.is("lesser(0, 0, 1, 0), both alike but at the last", g.lesser(0, 0, 1, 0), 1);
         Due.is("lesser(0, 0, 0, 1), both alike but at the last", g.lesser(0, 0, 0, 1), 0);
         Due.is("lesser(1, 0, 3, 0), both alike", g.lesser(1, 0, 3, 0), 1);
+        // By the other one's last question and last answer alone, whoever has more of them.
+        g = Told.game("game 5 1 4 2;win 4 0 3 0");
+        Due.is("lesser(1, 0, 0, 1)", g.lesser(1, 0, 0, 1), 0);
+        Due.is("lesser(1, 0, 1, 0)", g.lesser(1, 0, 1, 0), 1);
+        Due.is("lesser(0, 4, 3, 2)", g.lesser(0, 4, 3, 2), 0);
+        Due.is("lesser(0, 4, 2, 3)", g.lesser(0, 4, 2, 3), 1);
+        g.swap();
+        Due.is("lesser(0, 0, 0, 1)", g.lesser(0, 0, 0, 1), 0);
+        Due.is("lesser(1, 4, 3, 2)", g.lesser(1, 4, 3, 2), 0);
         Sentences.says(31, "NONE without these");
         for (int bad : Sentences.not(2)) {
             Sentences.refused("lesser(" + bad + ", 0, 0, 1)", h -> h.lesser(bad, 0, 0, 1), NONE);
@@ -115,6 +128,19 @@ public final class LookSentencesTest {
         Due.is("same(0, 0, 4) where all are", Told.game("game 5 5 2 2").same(0, 0, 4), 1);
         Due.is("same(0, 0, 1), wins of weight 0", Told.game("game 2 1 2 2;weight 0 0 0;weight 1 0 0;even 0 0")
                 .same(0, 0, 1), 0);
+        Due.is("same(0, 0, 1), the first win alone", Told.game("game 2 1 2 2;win 0 0 0 0").same(0, 0, 1), 0);
+        Due.is("same(1, 0, 1), the first win alone", Told.game("game 1 2 2 2;win 0 1 0 0").same(1, 0, 1), 0);
+        Due.is("same(0, 0, 1), the first box alone", Told.game("game 2 1 2 2;box 0 0 0 0 1").same(0, 0, 1), 0);
+        // By the other one's last question and last answer alone, whoever has more of them.
+        for (String last : new String[] {"weight 4 1 2", "win 4 1 3 1", "box 4 1 3 1 1"}) {
+            ApartGames g = Told.game("game 5 2 4 2;" + last);
+            Due.is("same(1, 0, 1) by " + last, g.same(1, 0, 1), 0);
+            Due.is("same(0, 0, 4) by " + last, g.same(0, 0, 4), 0);
+            Due.is("same(0, 0, 3) by " + last, g.same(0, 0, 3), 1);
+            g.swap();
+            Due.is("same(0, 0, 1) by " + last, g.same(0, 0, 1), 0);
+            Due.is("same(1, 0, 4) by " + last, g.same(1, 0, 4), 0);
+        }
         Sentences.says(32, "NONE without these");
         for (int bad : Sentences.not(2)) {
             Sentences.refused("same(" + bad + ", 0, 1)", h -> h.same(bad, 0, 1), NONE);
@@ -187,6 +213,13 @@ public final class LookSentencesTest {
         Due.is("the game is as it was", g.worth(1), 8);
         Due.is("cut() of the only one", Told.game("game 1 1 2 2;even 0 0").cut(0, 0), 0);
         Due.is("cut(4, 4)", Told.game("game 5 5 2 2;even 4 4;even 3 4").cut(4, 4), 1);
+        g = Told.game("game 3 2 2 2;even 2 1;even 1 0;weight 2 1 5;weight 1 0 3;odd 0 1");
+        Due.is("cut(2, 1)", g.cut(2, 1), 4);
+        Due.is("cut(1, 0)", g.cut(1, 0), 6);
+        Due.is("cut(0, 1)", g.cut(0, 1), 8);
+        g.swap();
+        Due.is("cut(1, 2), players exchanged", g.cut(1, 2), 4);
+        Due.is("cut(1, 0), players exchanged", g.cut(1, 0), 8);
         Sentences.says(34, "NONE without these");
         for (int bad : Sentences.not(2)) {
             Sentences.refused("cut(" + bad + ", 0)", h -> h.cut(bad, 0), NONE);
@@ -325,6 +358,7 @@ public final class LookSentencesTest {
         g = Told.game("game 1 1 2 2;weight 0 0 9;win 0 0 1 1");
         Due.is("twice(0) of what can be won", g.twice(0), 81);
         Due.is("twice(1) of what can be won", g.twice(1), 81);
+        twiceOver();
         g = Told.game("game 2 2 4 4");
         Due.is("twice(0), nothing wins", g.twice(0), 0);
         Due.is("twice(1), nothing wins", g.twice(1), 0);
@@ -338,15 +372,51 @@ public final class LookSentencesTest {
         Sentences.refusedBare("twice(1)", h -> h.twice(1));
     }
 
+    // More than rows of each bring that are played in both: the answers are by both questions.
+    private static void twiceOver() {
+        ApartGames g = Told.game("game 2 2 4 4;win 0 0 0 0;win 0 1 0 0;win 1 0 1 1;win 1 1 1 1;win 0 0 2 2;win 0 1 3 3;"
+                + "win 1 0 2 2;win 1 1 3 3");
+        Due.is("twice(0) of Feige's game", g.twice(0), 8);
+        Due.is("twice(1) of Feige's game", g.twice(1), 16);
+        // Where one has more questions or answers than the other: drawn games in which rows of each are not the best.
+        drawnTwice("game 2 2 3 2", 33);
+        drawnTwice("game 2 2 3 2", 5);
+        drawnTwice("game 2 2 2 3", 38);
+        drawnTwice("game 2 2 2 4", 57);
+        drawnTwice("game 2 3 3 2", 7);
+        drawnTwice("game 2 3 3 2", 14);
+        drawnTwice("game 2 3 2 4", 14);
+        drawnTwice("game 1 5 4 2", 3);
+        drawnTwice("game 2 1 2 4", 3);
+        drawnTwice("game 2 2 4 2", 57);
+    }
+
+    private static void drawnTwice(String text, int seed) {
+        ApartGames g = Told.game(text);
+        Naive naive = naive(text);
+        g.draw(seed);
+        naive.draw(seed);
+        Due.is("twice(0) of " + text + " by " + seed, g.twice(0), naive.twice(0));
+        Due.is("twice(1) of " + text + " by " + seed, g.twice(1), naive.twice(1));
+    }
+
+    private static Naive naive(String text) {
+        Naive naive = new Naive();
+        naive.feed(Told.four(text, 0), Told.four(text, 4), Told.four(text, 8), 0, 0);
+        naive.end(text.length());
+        naive.tell();
+        return naive;
+    }
+
     private static void twiceTooMany() {
         Sentences.says(38, "-2: ANN would have more than 70000 ROWS");
         for (int nx = 1; nx <= 5; nx++) {
             for (int na = 2; na <= 4; na++) {
-                // 16 to the 4th are 65536; 4 to the 9th are 262144.
+                // 16 to the 4th are 65536; 4 to the 9th are 262144. Ben's answers do not matter.
                 int due = nx <= 2 ? 0 : -2;
-                for (int what = 0; what < 2; what++) {
-                    Due.is("twice(" + what + ") of " + nx + " by " + na,
-                            Told.game("game " + nx + " 1 " + na + " 2").twice(what), due);
+                for (int i = 0; i < 6; i++) {
+                    Due.is("twice(" + i % 2 + ") of " + nx + " by " + na,
+                            Told.game("game " + nx + " 1 " + na + " " + (2 + i / 2)).twice(i % 2), due);
                 }
             }
         }
@@ -368,8 +438,43 @@ public final class LookSentencesTest {
             g.weigh(i / 5, i % 5, 9);
         }
         Due.is("product() of the greatest", g.product(), 180 * 180);
+        // CHSH, each question of Ann's twice.
+        g = Told.game(Sentences.CHSH);
+        g.copy(0, 0);
+        g.copy(0, 1);
+        Due.is("bias(0) of each twice", g.bias(0), 4);
+        Due.is("product() of each twice", g.product(), 32);
+        g.drop(1, 1);
+        Due.is("product(), not crossed", g.product(), 16);
+        g = Told.game(Sentences.CHSH);
+        g.copy(1, 0);
+        g.copy(1, 1);
+        Due.is("product() of each of Ben's twice", g.product(), 32);
+        g.copy(1, 0);
+        Due.is("product() of one of Ben's three times", g.product(), 50);
+        for (int i = 0; i < 24; i++) {
+            String text = "game " + (1 + i % 3) + " " + (1 + i / 3 % 4) + " 2 2";
+            signed(text, i);
+        }
         Sentences.says(39, "NONE without a GAME");
         Sentences.refusedBare("product()", ApartGames::product);
+    }
+
+    // A game of signs and weights that the number tells, against Naive.
+    private static void signed(String text, int number) {
+        ApartGames g = Told.game(text);
+        Naive naive = naive(text);
+        int state = number * 7 + 3;
+        for (int i = 0; i < g.count(0) * g.count(1); i++) {
+            int x = i / g.count(1);
+            int y = i % g.count(1);
+            state = (state * 37 + 11) % 1009;
+            g.parity(x, y, state % 2);
+            naive.parity(x, y, state % 2);
+            g.weigh(x, y, state / 2 % 4);
+            naive.weigh(x, y, state / 2 % 4);
+        }
+        Due.is("product() of signs by " + number, g.product(), naive.product());
     }
 
     private static void productRefused() {
@@ -396,6 +501,8 @@ public final class LookSentencesTest {
         Due.is("boxed(1) of 13", Told.game("game 1 1 2 2;box 0 0 0 0 11;box 0 0 1 1 2").boxed(1), 0);
         Due.is("boxed(1), the last one is not", Told.game("game 1 2 2 2;box 0 0 0 0 12").boxed(1), 0);
         Due.is("boxed(1), weight 0 is not", Told.game("game 1 2 2 2;box 0 0 0 0 12;weight 0 1 0").boxed(1), 0);
+        Due.is("boxed(1), by answers of Ann's last", Told.game("game 1 1 4 2;box 0 0 3 1 12").boxed(1), 1);
+        Due.is("boxed(1), by answers of Ben's last", Told.game("game 1 1 2 4;box 0 0 1 3 12").boxed(1), 1);
         Due.is("boxed(1), 24 here and 0 there", Told.game("game 1 2 2 2;box 0 0 0 0 12;box 0 0 1 1 12").boxed(1), 0);
         Sentences.says(40, "2: whether it SIGNALS");
         Due.is("boxed(2), nothing in it", Told.game("game 5 5 4 4").boxed(2), 0);
@@ -417,6 +524,19 @@ public final class LookSentencesTest {
         Due.is("boxed(0)", g.boxed(0), 3 * 17 + 12);
         Due.is("boxed(0), nothing in it", Told.game("game 1 1 2 2;even 0 0").boxed(0), 0);
         Due.is("boxed(0), nothing wins", Told.game("game 1 1 2 2;box 0 0 0 0 12").boxed(0), 0);
+        for (int turn = 0; turn < 2; turn++) {
+            ApartGames wide = Told.game("game 5 2 4 2;win 4 1 3 1;weight 4 1 9;box 4 1 3 1 12;win 4 0 3 0;box 4 0 3 0 1");
+            Due.is("swap()", turn == 0 ? 1 : wide.swap(), 1);
+            Due.is("boxed(0), the last ones", wide.boxed(0), 109);
+            Due.is("boxed(1), the last ones", wide.boxed(1), 0);
+            Due.is("boxed(2), the last ones", wide.boxed(2), 1);
+        }
+        ApartGames full = Told.game("game 5 5 4 4;win 4 4 3 3;weight 4 4 9");
+        full.mix(33333, 33333, 12);
+        Due.is("boxed(0) of the largest game", full.boxed(0), 108);
+        Due.is("boxed(1) of the largest game", full.boxed(1), 1);
+        Due.is("boxed(2) of the largest game", full.boxed(2), 0);
+        Due.is("boxed(3) of the largest game", full.boxed(3), 0);
         Sentences.says(40, "3: whether it is WORTH more than all twos of ROWS");
         Due.is("boxed(3), 63 by 4 times 12", g.boxed(3), 1);
         // Rows win 2 of 3, for Ann has but one answer.
@@ -487,6 +607,15 @@ public final class LookSentencesTest {
         Due.is("whatever the box", Told.game("game 2 2 2 2;box 0 0 0 0 12").symmetries(), 4);
         Due.is("the last win of the greatest table", Told.game("game 1 2 4 4;win 0 1 3 3").symmetries(), 1);
         Due.is("the first win of the greatest table", Told.game("game 1 2 4 4;win 0 1 0 0").symmetries(), 1);
+        Due.is("the last win of 4 by 2", Told.game("game 1 2 4 2;win 0 1 3 1").symmetries(), 1);
+        Due.is("the last win of 2 by 4", Told.game("game 1 2 2 4;win 0 1 1 3").symmetries(), 1);
+        Due.is("round in a ring of three", Told.game("game 3 3 2 2;weight 0 1 2;weight 1 2 2;weight 2 0 2;weight 0 2 3;"
+                + "weight 1 0 3;weight 2 1 3").symmetries(), 3);
+        Due.is("Ann's last two of four alone", Told.game("game 4 1 2 2;weight 0 0 5;weight 1 0 6").symmetries(), 2);
+        Due.is("two and two of four", Told.game("game 4 1 2 2;weight 0 0 5;weight 3 0 5").symmetries(), 4);
+        Due.is("Ann's first two alone", Told.game("game 3 2 2 2;weight 2 0 5;weight 2 1 5").symmetries(), 4);
+        Due.is("Ben's first two alone", Told.game("game 2 3 2 2;weight 0 2 5;weight 1 2 5").symmetries(), 4);
+        Due.is("a weight of one x, y", Told.game("game 3 4 2 2;weight 2 1 5").symmetries(), 12);
         Due.is("as they are alone", Told.game(Sentences.CHSH).symmetries(), 1);
         Sentences.says(42, "NONE without a GAME");
         Sentences.refusedBare("symmetries()", ApartGames::symmetries);

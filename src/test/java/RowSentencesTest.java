@@ -124,6 +124,20 @@ public final class RowSentencesTest {
     }
 
     private static void worthOthers() {
+        // Each asked alone, and behind a smaller game and others of the kind: nothing of these is left.
+        int[] due = {5, 5, 0, 3, 2};
+        for (int what = 0; what < 5; what++) {
+            ApartGames g = Told.game("game 1 1 2 2;even 0 0;odd 0 0;weight 0 0 9");
+            for (int ahead = 0; ahead < 5; ahead++) {
+                Due.is("worth(" + ahead + ") of all", g.worth(ahead), 9);
+            }
+            Told.tell(g, SURE);
+            Due.is("worth(" + what + ") behind a smaller game", g.worth(what), due[what]);
+            for (int other = 4; other >= 0; other--) {
+                Due.is("worth(" + other + ") behind worth(" + what + ")", g.worth(other), due[other]);
+                Due.is("worth(" + what + ") behind worth(" + other + ")", g.worth(what), due[what]);
+            }
+        }
         Sentences.says(20, "NONE for others, without a GAME");
         for (int bad : Sentences.not(5)) {
             Sentences.refused("worth(" + bad + ")", h -> h.worth(bad), NONE);
@@ -200,6 +214,9 @@ public final class RowSentencesTest {
         g = Told.game("game 1 5 2 4;weight 0 4 9;win 0 4 1 3");
         Due.is("hangs(1, 4) on his last answer", g.hangs(1, 4), 9);
         Due.is("hangs(0, 4)", g.hangs(0, 4), 0);
+        g = Told.game("game 5 1 2 2;weight 4 0 9;win 4 0 1 1;win 4 0 0 1;win 4 0 0 0");
+        Due.is("hangs(1, 0) by Ann's last question", g.hangs(1, 0), 9);
+        Due.is("hangs(0, 0) by Ann's last question", g.hangs(0, 0), 0);
         Sentences.says(23, "NONE without these");
         for (int bad : NO_ROWS) {
             Sentences.refused("hangs(" + bad + ", 0)", h -> h.hangs(bad, 0), NONE);
@@ -224,6 +241,14 @@ public final class RowSentencesTest {
         Due.is("reply(1, 0)", g.reply(1, 0), 0);
         g.swap();
         Due.is("reply(0, 1), of two alike the least", g.reply(0, 1), 32);
+        // By the other one's last question alone, whoever has more of them.
+        g = Told.game("game 5 1 2 2;win 4 0 1 1");
+        Due.is("reply(1, 1)", g.reply(1, 1), 1);
+        Due.is("reply(1, 11110)", g.reply(1, 11110), 0);
+        Due.is("reply(0, 1)", g.reply(0, 1), 1);
+        g.swap();
+        Due.is("reply(0, 1), players exchanged", g.reply(0, 1), 1);
+        Due.is("reply(1, 1), players exchanged", g.reply(1, 1), 1);
         Sentences.says(24, "NONE without these");
         for (int bad : Sentences.not(2)) {
             Sentences.refused("reply(" + bad + ", 0)", h -> h.reply(bad, 0), NONE);
@@ -331,6 +356,8 @@ public final class RowSentencesTest {
         mean("game 1 1 3 3;weight 0 0 9;win 0 0 0 0", 1, 1);
         mean("game 1 1 3 3;weight 0 0 6;win 0 0 0 0", 2, 3);
         mean("game 1 1 2 3;weight 0 0 5;even 0 0;odd 0 0", 5, 1);
+        mean("game 3 2 2 2;weight 2 0 5;weight 0 1 3;weight 2 1 7;win 2 1 0 0", 7, 4);
+        mean("game 2 3 2 2;weight 0 2 5;weight 1 0 3;weight 1 2 7;win 1 2 0 0", 7, 4);
         mean("game 1 1 2 2", 0, 1);
         mean("game 5 5 4 3", 0, 1);
         mean("game 1 1 2 2;weight 0 0 0;even 0 0", 0, 1);

@@ -240,6 +240,9 @@ public final class TextSentencesTest {
         }
         // The bytes beside the letters and the digits.
         fault("game`1 1 2 2", 4, 1);
+        fault("gamez 1 1 2 2", 0, 1);
+        fault("gamea 1 1 2 2", 0, 1);
+        fault("agame 1 1 2 2", 0, 1);
         fault("game{1 1 2 2", 4, 1);
         fault("game 1 1 2 2;eve`", 13, 1);
         fault("game 1 1 2 2;zz 0 0", 13, 1);
@@ -411,6 +414,13 @@ public final class TextSentencesTest {
         Due.is("undo()", g.undo(), NONE);
         Due.is("nothing is left of the old one", Told.letters(g), "game 3 2 2 3");
         Due.is("shelves", g.count(7), 1);
+        Told.tell(g, "game 1 1 2 2;weight 0 0 7;even 0 0;box 0 0 0 0 5;box 0 0 1 1 5");
+        Due.is("tell() of the same size", Told.tell(g, "game 1 1 2 2"), 1);
+        Due.is("nothing is left of that one", Told.letters(g), "game 1 1 2 2");
+        Due.is("tell() of a fault behind its parts",
+                Told.tell(g, "game 1 1 2 2;weight 0 0 7;even 0 0;box 0 0 0 0 5;x"), -2 - (8 * 49 + 1));
+        Due.is("tell() behind the fault", Told.tell(g, "game 1 1 2 2"), 1);
+        Due.is("nothing is left of the faulty one", Told.letters(g), "game 1 1 2 2");
         // What the smaller game did not reach must not come back in a larger one.
         Due.is("tell() of a larger one", Told.tell(g, "game 5 5 4 4"), 5);
         Due.is("told anew", Told.letters(g), "game 5 5 4 4");
