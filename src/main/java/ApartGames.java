@@ -15,6 +15,8 @@ public final class ApartGames {
     private static final int BEN = 1;
 
     private static final int MOST_QUESTIONS = 5;
+    // Questions as bits: more than a player has do no harm.
+    private static final int ALL_QUESTIONS = 31;
     private static final int LEAST_ANSWERS = 2;
     private static final int MOST_ANSWERS = 4;
     private static final int MOST_WEIGHT = 9;
@@ -235,13 +237,13 @@ public final class ApartGames {
             case 1:
                 return game.weightTogether();
             case 2:
-                table.loadPlain(game, ANN);
+                table.loadSome(game, ANN, ALL_QUESTIONS);
                 return table.leastLow();
             case 3:
-                table.loadPlain(game, ANN);
+                table.loadSome(game, ANN, ALL_QUESTIONS);
                 return table.mostLow();
             case 4:
-                table.loadPlain(game, BEN);
+                table.loadSome(game, BEN, ALL_QUESTIONS);
                 return table.mostLow();
             default:
                 return NONE;
@@ -252,7 +254,7 @@ public final class ApartGames {
         if (!game.isTold() || !isPlayer(player)) {
             return NONE;
         }
-        table.loadPlain(game, player);
+        table.loadSome(game, player, ALL_QUESTIONS);
         return table.firstRowOfLow(table.mostLow());
     }
 
@@ -280,7 +282,7 @@ public final class ApartGames {
             return NONE;
         }
         int most = mostOf(game);
-        table.loadPlain(game, ANN);
+        table.loadSome(game, ANN, ALL_QUESTIONS);
         return table.countTops(most);
     }
 
@@ -289,7 +291,7 @@ public final class ApartGames {
             return NONE;
         }
         int most = mostOf(game);
-        table.loadPlain(game, ANN);
+        table.loadSome(game, ANN, ALL_QUESTIONS);
         return table.rowOfTop(most, k, player);
     }
 
@@ -298,7 +300,7 @@ public final class ApartGames {
             return NONE;
         }
         int most = mostOf(game);
-        table.loadPlain(game, ANN);
+        table.loadSome(game, ANN, ALL_QUESTIONS);
         return table.countTopsLosing(game, most, x, y);
     }
 
@@ -523,7 +525,7 @@ public final class ApartGames {
     }
 
     private int mostOf(Game asked) {
-        table.loadPlain(asked, ANN);
+        table.loadSome(asked, ANN, ALL_QUESTIONS);
         return table.mostAbove(0);
     }
 
@@ -555,8 +557,10 @@ public final class ApartGames {
     }
 
     private static int spotOf(int player, int own, int other, int mine, int his) {
-        int answers = player == ANN ? mine * MOST_ANSWERS + his : his * MOST_ANSWERS + mine;
-        return cellOf(player, own, other) * MOST_ANSWERS * MOST_ANSWERS + answers;
+        if (player == ANN) {
+            return ((own * MOST_QUESTIONS + other) * MOST_ANSWERS + mine) * MOST_ANSWERS + his;
+        }
+        return ((other * MOST_QUESTIONS + own) * MOST_ANSWERS + his) * MOST_ANSWERS + mine;
     }
 
     private static int commonDivisor(int one, int other) {
@@ -1353,10 +1357,6 @@ public final class ApartGames {
             line = itsGroups * itsReplies;
         }
 
-        private void loadPlain(Game game, int player) {
-            loadSome(game, player, (1 << MOST_QUESTIONS) - 1);
-        }
-
         private void loadSome(Game game, int player, int subset) {
             setSizes(0, game.answersOf(player), game.questionsOf(1 - player), game.answersOf(1 - player));
             for (int question = 0; question < game.questionsOf(player); question++) {
@@ -1382,45 +1382,59 @@ public final class ApartGames {
         private void loadTwice(Game game, boolean onceIsEnough) {
             setSizes(game.annQuestions * game.annQuestions, game.annAnswers * game.annAnswers,
                     game.benQuestions * game.benQuestions, game.benAnswers * game.benAnswers);
-            for (int asked = 0; asked < questions; asked++) {
-                for (int given = 0; given < answers; given++) {
-                    loadTwiceLine(game, asked, given, onceIsEnough);
+            int to = 0;
+            for (int x = 0; x < game.annQuestions; x++) {
+                for (int z = 0; z < game.annQuestions; z++) {
+                    for (int a = 0; a < game.annAnswers; a++) {
+                        for (int c = 0; c < game.annAnswers; c++) {
+                            loadTwiceLine(game, x, z, a, c, to, onceIsEnough);
+                            to += line;
+                        }
+                    }
                 }
             }
         }
 
-        private void loadTwiceLine(Game game, int asked, int given, boolean onceIsEnough) {
-            int x = asked / game.annQuestions;
-            int z = asked % game.annQuestions;
-            int a = given / game.annAnswers;
-            int c = given % game.annAnswers;
-            int to = (asked * answers + given) * line;
-            for (int group = 0; group < groups; group++) {
-                int y = group / game.benQuestions;
-                int v = group % game.benQuestions;
-                int together = game.weights[cellOf(ANN, x, y)] * game.weights[cellOf(ANN, z, v)];
-                for (int reply = 0; reply < replies; reply++) {
-                    int first = game.winning[spotOf(ANN, x, y, a, reply / game.benAnswers)];
-                    int second = game.winning[spotOf(ANN, z, v, c, reply % game.benAnswers)];
-                    gains[to] = together * (onceIsEnough ? first | second : first & second);
-                    to++;
+        private void loadTwiceLine(Game game, int x, int z, int a, int c, int from, boolean onceIsEnough) {
+            int to = from;
+            for (int y = 0; y < game.benQuestions; y++) {
+                for (int v = 0; v < game.benQuestions; v++) {
+                    int together = game.weights[cellOf(ANN, x, y)] * game.weights[cellOf(ANN, z, v)];
+                    for (int b = 0; b < game.benAnswers; b++) {
+                        for (int d = 0; d < game.benAnswers; d++) {
+                            int first = game.winning[spotOf(ANN, x, y, a, b)];
+                            int second = game.winning[spotOf(ANN, z, v, c, d)];
+                            gains[to] = together * (onceIsEnough ? first | second : first & second);
+                            to++;
+                        }
+                    }
                 }
             }
         }
 
         private void loadWithItself(Game game) {
             setSizes(game.annQuestions * game.annQuestions, 2, game.benQuestions * game.benQuestions, 2);
-            for (int asked = 0; asked < questions; asked++) {
-                int to = asked * answers * line;
-                for (int group = 0; group < groups; group++) {
-                    int counts = game.signedWeight(asked / game.annQuestions, group / game.benQuestions)
-                            * game.signedWeight(asked % game.annQuestions, group % game.benQuestions);
-                    gains[to + 2 * group] = counts;
-                    gains[to + 2 * group + 1] = -counts;
-                    // All answers of both turned round count the same, so the first one may stay 0.
-                    int turned = asked == 0 ? counts : -counts;
-                    gains[to + line + 2 * group] = turned;
-                    gains[to + line + 2 * group + 1] = -turned;
+            int to = 0;
+            for (int x = 0; x < game.annQuestions; x++) {
+                for (int z = 0; z < game.annQuestions; z++) {
+                    loadWithItselfLines(game, x, z, to);
+                    to += 2 * line;
+                }
+            }
+        }
+
+        private void loadWithItselfLines(Game game, int x, int z, int from) {
+            int to = from;
+            for (int y = 0; y < game.benQuestions; y++) {
+                for (int v = 0; v < game.benQuestions; v++) {
+                    int counts = game.signedWeight(x, y) * game.signedWeight(z, v);
+                    // All answers of both turned round count the same, so Ann's first one may stay 0.
+                    int turned = from == 0 ? counts : -counts;
+                    gains[to] = counts;
+                    gains[to + 1] = -counts;
+                    gains[to + line] = turned;
+                    gains[to + line + 1] = -turned;
+                    to += 2;
                 }
             }
         }
